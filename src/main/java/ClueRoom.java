@@ -92,7 +92,6 @@ public final class ClueRoom {
     private final Possibles possibles = new Possibles(lexicon, clues, reader);
     private final Grid grid = new Grid();
     private final Solver solver = new Solver(lexicon, possibles, grid);
-    private final Filler filler = new Filler(lexicon, possibles, grid);
     private final Critic critic = new Critic(lexicon, possibles, grid);
     private final Post post = new Post(lexicon, possibles, grid);
 
@@ -222,32 +221,38 @@ public final class ClueRoom {
         if (!grid.hasLight(c)) {
             return NONE;
         }
-        solver.settle(t);
+        possibles.recallLights(grid, t);
+        solver.settle();
         return solver.sizes[c];
     }
 
     public int nextLight(int t) {
-        solver.settle(t);
-        return solver.nextFrom(0);
+        possibles.recallLights(grid, t);
+        solver.settle();
+        return solver.nextOne();
     }
 
     public int solve(int t) {
-        return solver.enterAll(t);
+        possibles.recallLights(grid, t);
+        solver.settle();
+        return solver.enterAll();
     }
 
     public int fillings(int t) {
-        return filler.fillAsOf(t);
+        possibles.recallLights(grid, t);
+        return solver.fillAll();
     }
 
     public int filled(int c) {
         if (c < 0 || c >= MOST_CLUES) {
             return NONE;
         }
-        return filler.told[c];
+        return solver.told[c];
     }
 
     public int unfair(int t) {
-        return critic.reviewAsOf(t);
+        possibles.recallLights(grid, t);
+        return critic.reviewAll(t);
     }
 
     public int told(int k, int what) throws NoSuchElementException {
@@ -266,10 +271,12 @@ public final class ClueRoom {
         if (g < 0 || g >= post.log.size) {
             return NONE;
         }
+        possibles.recallLights(grid, t);
         return post.isRight(g, t) ? 1 : 0;
     }
 
     public int winner(int t) {
+        possibles.recallLights(grid, t);
         for (int g = 0; g < post.log.size; g++) {
             if (post.isRight(g, t)) {
                 return g;
@@ -470,10 +477,12 @@ public final class ClueRoom {
 
         /** Whether a means b by the first so many meanings told. */
         boolean isMeant(int a, int b, int knownMeanings) {
-            for (int k = newest[chainOf(a, lengths[b])]; k != NONE; k = older[k]) {
+            int k = newest[chainOf(a, lengths[b])];
+            for (int n = 0; n < MOST_MEANINGS && k != NONE; n++) {
                 if (meant[k] == b) {
                     return k < knownMeanings;
                 }
+                k = older[k];
             }
             return false;
         }
@@ -623,10 +632,12 @@ public final class ClueRoom {
                 return 0;
             }
             int found = 0;
-            for (int k = lexicon.newest[lexicon.chainOf(words[place], length)]; k != NONE; k = lexicon.older[k]) {
+            int k = lexicon.newest[lexicon.chainOf(words[place], length)];
+            for (int n = 0; n < MOST_MEANINGS && k != NONE; n++) {
                 if (k < knownMeanings && lexicon.isSpelled(lexicon.meant[k], ahead, aim, 0, aimSize)) {
                     found++;
                 }
+                k = lexicon.older[k];
             }
             return found;
         }
@@ -1154,6 +1165,15 @@ public final class ClueRoom {
             return true;
         }
 
+        /** Makes the lists of all lights, of which clues that are not known then have empty ones. */
+        void recallLights(Grid grid, int t) {
+            for (int c = 0; c < MOST_CLUES; c++) {
+                if (grid.hasLight(c)) {
+                    recall(c, t);
+                }
+            }
+        }
+
         int wordAt(int c, int k) {
             return words[c * MOST_WORDS + k];
         }
@@ -1264,24 +1284,31 @@ public final class ClueRoom {
         }
     }
 
-    /** What is left of the lights, and what a solver enters by it. */
+    /** What a solver finds by the lists of what is possible: what is left, what to enter, the ways to fill all. */
     private static final class Solver {
         private final Lexicon lexicon;
         private final Possibles possibles;
         private final Grid grid;
         private final int[] words = new int[MOST_CLUES * MOST_WORDS];
         private final int[] sizes = new int[MOST_CLUES];
+        private final int[] chosen = new int[MOST_CLUES];
+        private final int[] first = new int[MOST_CLUES];
+        /** The first filling of the latest call that told any. */
+        private final int[] told = new int[MOST_CLUES];
+        private int ways;
+        private int tries;
 
         Solver(Lexicon lexicon, Possibles possibles, Grid grid) {
             this.lexicon = lexicon;
             this.possibles = possibles;
             this.grid = grid;
+            Arrays.fill(told, NONE);
         }
 
         /** Words go until none has to: each round but the last takes one at least. */
-        void settle(int t) {
+        void settle() {
             for (int c = 0; c < MOST_CLUES; c++) {
-                takePossible(c, t);
+                takePossible(c);
             }
             boolean changed = true;
             for (int round = 0; changed && round <= MOST_CLUES * MOST_WORDS; round++) {
@@ -1292,13 +1319,9 @@ public final class ClueRoom {
             }
         }
 
-        private void takePossible(int c, int t) {
+        private void takePossible(int c) {
             sizes[c] = 0;
-            if (!grid.hasLight(c)) {
-                return;
-            }
-            possibles.recall(c, t);
-            for (int k = 0; k < possibles.sizes[c]; k++) {
+            for (int k = 0; grid.hasLight(c) && k < possibles.sizes[c]; k++) {
                 int w = possibles.wordAt(c, k);
                 if (agrees(c, w)) {
                     words[c * MOST_WORDS + sizes[c]] = w;
@@ -1350,17 +1373,19 @@ public final class ClueRoom {
             return changed;
         }
 
-        /** The first light from a number on that has one word left and something to enter, or NONE. */
-        int nextFrom(int from) {
-            for (int c = Math.max(0, from); c < MOST_CLUES; c++) {
-                if (sizes[c] == 1 && hasGap(c)) {
+        int nextOne() {
+            for (int c = 0; c < MOST_CLUES; c++) {
+                if (isNext(c)) {
                     return c;
                 }
             }
             return NONE;
         }
 
-        private boolean hasGap(int c) {
+        private boolean isNext(int c) {
+            if (sizes[c] != 1) {
+                return false;
+            }
             for (int k = 0; k < grid.lengths[c]; k++) {
                 if (grid.entered[grid.cellOf(c, k)] == 0) {
                     return true;
@@ -1373,11 +1398,10 @@ public final class ClueRoom {
          * Enters light by light. What is left stays the same while the only words left are entered,
          * as every crossing word agrees with them; so one settling and one pass by numbers do.
          */
-        int enterAll(int t) {
-            settle(t);
+        int enterAll() {
             int done = 0;
             for (int c = 0; c < MOST_CLUES; c++) {
-                if (sizes[c] == 1 && hasGap(c)) {
+                if (isNext(c)) {
                     enterWord(c, words[c * MOST_WORDS]);
                     done++;
                 }
@@ -1390,39 +1414,14 @@ public final class ClueRoom {
                 grid.entered[grid.cellOf(c, k)] = lexicon.letterAt(w, k) - 'a' + 1;
             }
         }
-    }
 
-    /** Looks for the ways to fill all lights, whatever is entered. */
-    private static final class Filler {
-        private final Lexicon lexicon;
-        private final Possibles possibles;
-        private final Grid grid;
-        private final int[] chosen = new int[MOST_CLUES];
-        private final int[] first = new int[MOST_CLUES];
-        /** The first way of the latest call that told any. */
-        private final int[] told = new int[MOST_CLUES];
-        private int ways;
-        private int tries;
-
-        Filler(Lexicon lexicon, Possibles possibles, Grid grid) {
-            this.lexicon = lexicon;
-            this.possibles = possibles;
-            this.grid = grid;
-            Arrays.fill(told, NONE);
-        }
-
-        int fillAsOf(int t) {
+        int fillAll() {
             if (grid.lights == 0) {
                 return 0;
             }
-            for (int c = 0; c < MOST_CLUES; c++) {
-                chosen[c] = NONE;
-                if (grid.hasLight(c)) {
-                    possibles.recall(c, t);
-                }
-            }
             ways = 0;
             tries = 0;
+            Arrays.fill(chosen, NONE);
             fillFrom(0);
             if (tries > MOST_TRIES) {
                 return GIVEN_UP;
@@ -1485,7 +1484,7 @@ public final class ClueRoom {
             this.grid = grid;
         }
 
-        int reviewAsOf(int t) {
+        int reviewAll(int t) {
             size = 0;
             for (int c = 0; c < MOST_CLUES; c++) {
                 if (grid.hasLight(c)) {
@@ -1498,7 +1497,6 @@ public final class ClueRoom {
         private void review(int c, int t) {
             int solution = grid.solutionOf(c, t);
             boolean solved = solution != NONE;
-            possibles.recall(c, t);
             noteIf(!solved, 1, c);
             noteIf(solved && !possibles.has(c, solution), 2, c);
             noteIf(solved && hasRival(c, solution), 3, c);
@@ -1623,11 +1621,7 @@ public final class ClueRoom {
 
         private boolean isAnswered(int c, int t) {
             int w = lexicon.find(letters, starts[c], grid.lengths[c]);
-            if (w == NONE) {
-                return false;
-            }
-            possibles.recall(c, t);
-            return w == grid.solutionOf(c, t) || possibles.has(c, w);
+            return w != NONE && (w == grid.solutionOf(c, t) || possibles.has(c, w));
         }
     }
 

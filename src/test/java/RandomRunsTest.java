@@ -18,18 +18,24 @@ public final class RandomRunsTest {
     private final int[] lengths = new int[16];
     /** Half of the runs have few plays, so that the dearer ones are not always beaten by cheaper ones. */
     private final int[] plays;
+    private final int[] clues = new int[5];
     private int calls = 0;
     private boolean over = false;
 
     private RandomRunsTest(long seed) {
         random = new Random(seed);
         label = "seed " + seed;
+        for (int k = 0; k < clues.length; k++) clues[k] = random.nextInt(16);
         plays = random.nextBoolean() ? new int[] {0, 1, 2, 3, 4, 5, 6, 7, 8, 9}
                 : new int[] {random.nextInt(10), 7 + random.nextInt(2), random.nextInt(10), 9};
     }
 
     private int pick(int bound) {
         return random.nextInt(bound);
+    }
+
+    private int someClue() {
+        return clues[pick(clues.length)];
     }
 
     private int check(String call, int got, int want) {
@@ -99,7 +105,7 @@ public final class RandomRunsTest {
     }
 
     private void tellClue(int most, int longest) {
-        int c = pick(40) == 0 ? pick(20) - 2 : pick(5);
+        int c = pick(40) == 0 ? pick(20) - 2 : someClue();
         int length = 1 + pick(longest);
         if (c >= 0 && c < 16 && lengths[c] > 0 && pick(20) > 0) length = lengths[c];
         int size = pick(40) == 0 ? pick(12) : 2 + pick(most - 1);
@@ -182,7 +188,7 @@ public final class RandomRunsTest {
 
     /** A clue that has a reading, as a rule. */
     private void buildClue() {
-        int c = pick(5);
+        int c = someClue();
         String s = lengths[c] > 0 ? letters(lengths[c], 4) : letters(3 + pick(8), 4);
         int answer = wordOf(s);
         boolean linked = pick(4) == 0;
@@ -201,7 +207,7 @@ public final class RandomRunsTest {
     }
 
     private void tellLight() {
-        int c = pick(6) - (pick(20) == 0 ? 1 : 0);
+        int c = pick(20) == 0 ? pick(20) - 2 : someClue();
         int row = pick(5) - (pick(20) == 0 ? 1 : 0);
         int column = pick(pick(9) == 0 ? 11 : 4);
         boolean down = random.nextBoolean();
@@ -235,7 +241,7 @@ public final class RandomRunsTest {
     }
 
     private void askReading() {
-        int c = pick(20) == 0 ? pick(20) - 2 : pick(5);
+        int c = pick(20) == 0 ? pick(20) - 2 : someClue();
         int t = someDay();
         int w = someWord();
         int possible = plain.possible(c, t);
@@ -246,7 +252,7 @@ public final class RandomRunsTest {
     }
 
     private void askPossible() {
-        int c = pick(20) == 0 ? pick(20) - 2 : pick(5);
+        int c = pick(20) == 0 ? pick(20) - 2 : someClue();
         int t = someDay();
         int size = check("possible(" + c + "," + t + ")", room.possible(c, t), plain.possible(c, t));
         for (int k = -1; k <= size && k < 4; k++) {
@@ -272,7 +278,7 @@ public final class RandomRunsTest {
 
     private void askGrid() {
         int t = someDay();
-        int c = pick(7) - 1;
+        int c = pick(10) == 0 ? pick(20) - 2 : someClue();
         switch (pick(6)) {
             case 0: check("left(" + c + "," + t + ")", room.left(c, t), plain.left(c, t)); break;
             case 1: check("nextLight(" + t + ")", room.nextLight(t), plain.nextLight(t)); break;
@@ -285,7 +291,7 @@ public final class RandomRunsTest {
                 break;
             case 3:
                 check("fillings(" + t + ")", room.fillings(t), plain.fillings(t));
-                for (int k = -1; k < 8; k++) check("filled(" + k + ")", room.filled(k), plain.filled(k));
+                for (int k = -1; k < 17; k++) check("filled(" + k + ")", room.filled(k), plain.filled(k));
                 break;
             case 4: askUnfair(t); break;
             default: clearAll(); break;
@@ -313,7 +319,7 @@ public final class RandomRunsTest {
     }
 
     private void tellSolution() {
-        int c = pick(6);
+        int c = someClue();
         int w = someWord();
         int possible = plain.possible(c, 999);
         if (possible > 0 && pick(3) > 0) w = plain.possibleAt(c, pick(possible), 999);
