@@ -327,27 +327,8 @@ public final class PromisesTest {
         due("none", d.room.possible(2, 3), 0);
     }
 
-    /** Clues 0 to 2 of length 2 with the words ab, ba, cd, dc, and lights that cross one behind the other. */
-    private static Desk small() {
-        Desk d = new Desk();
-        for (String s : new String[] {"ab", "ba", "cd", "dc"}) {
-            d.w(s);
-        }
-        for (String s : new String[] {"ab", "ba", "cd", "dc"}) {
-            d.means("x", s);
-            d.means("y", s);
-        }
-        d.clue(0, 2, "x y");
-        d.clue(1, 2, "x y");
-        d.clue(2, 2, "y x");
-        d.room.light(0, 0, 0, false);
-        d.room.light(1, 0, 0, true);
-        d.room.light(2, 1, 0, false);
-        return d;
-    }
-
     private static void promise16And17EnterAndCell() {
-        Desk d = small();
+        Desk d = Desk.small();
         due("row -1", d.room.enter(-1, 0, 1), false);
         due("column 9", d.room.enter(0, 9, 1), false);
         due("a cell of no light", d.room.enter(2, 0, 1), false);
@@ -365,7 +346,7 @@ public final class PromisesTest {
     }
 
     private static void promise18To20LeftNextSolve() {
-        Desk d = small();
+        Desk d = Desk.small();
         due("left", d.room.left(0, 0), 4);
         due("left of none", d.room.left(3, 0), -1);
         due("left of -1", d.room.left(-1, 0), -1);
@@ -387,7 +368,7 @@ public final class PromisesTest {
         d.room.enter(0, 1, 1);
         due("left when it disagrees", d.room.left(0, 0), 0);
         due("left of one that crosses it", d.room.left(2, 0), 0);
-        Desk e = small();
+        Desk e = Desk.small();
         e.room.enter(0, 0, 1);
         e.room.enter(0, 1, 2);
         due("next of those that have a gap", e.room.nextLight(0), 1);
@@ -397,7 +378,7 @@ public final class PromisesTest {
     }
 
     private static void promise21And22Fillings() {
-        Desk d = small();
+        Desk d = Desk.small();
         due("filled ahead of any", d.room.filled(0), -1);
         due("fillings", d.room.fillings(0), 4);
         due("filled", d.room.filled(0) + " " + d.room.filled(1) + " " + d.room.filled(2), "0 0 1");
@@ -551,7 +532,7 @@ public final class PromisesTest {
     }
 
     private static void promise25To27Grids() {
-        Desk d = small();
+        Desk d = Desk.small();
         Desk none = new Desk();
         due("no lights", none.send("ab"), -1);
         due("no lights, no letters", none.room.send(), -1);
@@ -601,14 +582,14 @@ public final class PromisesTest {
     }
 
     private static void gridsLimit() {
-        Desk d = small();
+        Desk d = Desk.small();
         for (int k = 0; k < 30; k++) due("grid " + k, d.send("zzzzzz"), k);
         due("the 31st", d.send("zzzzzz"), -1);
         due("grids", d.room.count(6), 30);
     }
 
     private static void promise28Count() {
-        Desk d = small();
+        Desk d = Desk.small();
         d.room.next(7);
         d.sign("x", Desk.LINK);
         d.send("ababba");

@@ -21,6 +21,24 @@ final class Desk {
     final ClueRoom room = new ClueRoom();
     private final List<String> words = new ArrayList<>();
 
+    /** Lights 0 to 2 of length 2 in a chain, each of which ab, ba, cd and dc (words 0 to 3) are possible for. */
+    static Desk small() {
+        Desk d = new Desk();
+        String[] list = {"ab", "ba", "cd", "dc"};
+        for (String s : list) d.w(s);
+        for (String s : list) {
+            d.means("x", s);
+            d.means("y", s);
+        }
+        d.clue(0, 2, "x y");
+        d.clue(1, 2, "x y");
+        d.clue(2, 2, "y x");
+        d.room.light(0, 0, 0, false);
+        d.room.light(1, 0, 0, true);
+        d.room.light(2, 1, 0, false);
+        return d;
+    }
+
     static void due(String what, Object got, Object want) {
         checks++;
         if (!got.equals(want)) {
@@ -38,6 +56,17 @@ final class Desk {
     /** Puts a text on the tape, behind what is there. */
     void type(String s) {
         int before = room.count(7);
+        feed(s);
+        room.end(before + s.length());
+    }
+
+    /** Puts a text on the tape, which must be empty. */
+    void put(String s) {
+        feed(s);
+        room.end(s.length());
+    }
+
+    private void feed(String s) {
         for (int start = 0; start < s.length(); start += 20) {
             int[] n = new int[5];
             for (int k = 0; k < 20; k++) {
@@ -46,11 +75,11 @@ final class Desk {
             }
             room.feed(n[0], n[1], n[2], n[3], n[4]);
         }
-        room.end(before + s.length());
     }
 
+    /** Tells a word by three calls; the tape must be empty. */
     int tell(String s) {
-        type(s);
+        put(s);
         int w = room.word();
         if (w >= 0) words.add(s);
         return w;
@@ -74,7 +103,7 @@ final class Desk {
     int clue(int c, int length, String text) {
         StringBuilder s = new StringBuilder();
         for (String x : text.split(" ")) s.append((char) w(x));
-        type(s.toString());
+        put(s.toString());
         return room.clue(c, length);
     }
 
@@ -126,7 +155,20 @@ final class Desk {
     }
 
     int send(String s) {
-        type(s);
+        put(s);
         return room.send();
+    }
+
+    /** All that calls which change nothing tell of the first three clues, their lights and the first cells, as of a day. */
+    String state(int t) {
+        StringBuilder s = new StringBuilder(out());
+        for (int what = 0; what < 9; what++) s.append(' ').append(room.count(what));
+        for (int c = 0; c < 3; c++) {
+            s.append(" clue ").append(room.filled(c)).append(' ').append(room.left(c, t)).append(' ').append(room.possible(c, t));
+        }
+        for (int k = 0; !toldThrows(k, 0); k++) s.append(' ').append(room.told(k, 0)).append('@').append(room.told(k, 1));
+        for (int k = 0; k < 9; k++) s.append(' ').append(room.cell(k / 3, k % 3));
+        for (int g = 0; g < room.count(6); g++) s.append(' ').append(room.right(g, t));
+        return s.append(' ').append(room.winner(t)).append(' ').append(room.nextLight(t)).toString();
     }
 }
