@@ -333,6 +333,7 @@ public final class GridBoundsTest {
         solveSixteen();
         solveLeavesTheRest();
         solveIsAsOfADay();
+        solveStaysWithinTheLight();
     }
 
     private static void solveNothing() {
@@ -382,6 +383,20 @@ public final class GridBoundsTest {
         due("two left today", d.room.solve(3), 0);
         due("one left then", d.room.solve(2), 1);
         due("it stands today", d.room.cell(0, 1), 2);
+    }
+
+    private static void solveStaysWithinTheLight() {
+        for (int turned = 0; turned < 2; turned++) {
+            boolean down = turned == 1;
+            Desk d = new Desk();
+            clueOf(d, 0, "x", "ab", "cd");
+            clueOf(d, 1, "y", "ab");
+            clueOf(d, 2, "x", "ab", "cd");
+            for (int c = 0; c < 3; c++) d.room.light(c, down ? 2 * c : 0, down ? 0 : 2 * c, down);
+            due("the middle one", d.room.solve(0), 1);
+            due("nothing ahead of it", down ? d.room.cell(1, 0) : d.room.cell(0, 1), 0);
+            due("nothing behind it", down ? d.room.cell(4, 0) : d.room.cell(0, 4), 0);
+        }
     }
 
     // ---- Promise 21: fillings; 'it ends with the 1000th way'
@@ -437,17 +452,23 @@ public final class GridBoundsTest {
         return "" + (char) ('a' + k / 8) + (char) ('a' + k % 8);
     }
 
-    /** Three lights that do not cross, each of which the first so many of one list are possible for. */
-    private static void fillingsOfANumber(int first, int second, int third, int want) {
+    /** Lights that do not cross, each of which the first so many of one list are possible for. */
+    private static Desk lightsOf(int... many) {
         Desk d = new Desk();
-        int[] many = {first, second, third};
-        for (int k = 0; k < 40; k++) d.w(pair(k));
-        for (int c = 0; c < 3; c++) {
+        int most = 0;
+        for (int m : many) most = Math.max(most, m);
+        for (int k = 0; k < most; k++) d.w(pair(k));
+        for (int c = 0; c < many.length; c++) {
             String by = "xyz".substring(c, c + 1);
             for (int k = 0; k < many[c]; k++) d.means(by, pair(k));
             d.clue(c, 2, by + " " + by);
             d.room.light(c, 2 * c, 0, false);
         }
+        return d;
+    }
+
+    private static void fillingsOfANumber(int first, int second, int third, int want) {
+        Desk d = lightsOf(first, second, third);
         due(first + " times " + second + " times " + third, d.room.fillings(0), want);
         due("the first way", d.room.filled(0) + " " + d.room.filled(1) + " " + d.room.filled(2), "0 0 0");
     }
@@ -473,29 +494,20 @@ public final class GridBoundsTest {
         triesEndWithTheThousandthWay();
     }
 
-    private static void lightsOf(Desk d, int... many) {
-        int most = 0;
-        for (int m : many) most = Math.max(most, m);
-        for (int k = 0; k < most; k++) d.w(pair(k));
-        for (int c = 0; c < many.length; c++) {
-            String by = "xyz".substring(c, c + 1);
-            for (int k = 0; k < many[c]; k++) d.means(by, pair(k));
-            d.clue(c, 2, by + " " + by);
-            d.room.light(c, 2 * c, 0, false);
-        }
+    /** A last light that nothing is possible for, so that all is tried for the others and no way is found. */
+    private static Desk deadEnd(Desk d) {
         d.clue(9, 1, "x y");
         d.room.light(9, 8, 8, false);
+        return d;
     }
 
     private static void triesOf20000() {
-        Desk d = new Desk();
-        lightsOf(d, 20, 27, 36);
+        Desk d = deadEnd(lightsOf(20, 27, 36));
         due("20 + 20 * 27 + 20 * 27 * 36 tries and no way", d.room.fillings(0), 0);
     }
 
     private static void triesOf20001() {
-        Desk d = new Desk();
-        lightsOf(d, 59, 13, 25);
+        Desk d = deadEnd(lightsOf(59, 13, 25));
         due("59 + 59 * 13 + 59 * 13 * 25 tries and no way", d.room.fillings(0), -2);
         due("filled ahead of any", d.room.filled(0), -1);
     }
@@ -884,6 +896,7 @@ public final class GridBoundsTest {
         rightBySolutionOrPossible();
         rightOfAWordThatIsNotTold();
         rightByRisingNumbers();
+        rightByTheirLastCells();
     }
 
     private static void rightOfNoGrid() {
@@ -956,6 +969,20 @@ public final class GridBoundsTest {
         d.send("cab");
         due("light 9 first", d.room.right(0, 0), 0);
         due("light 2 first", d.room.right(1, 0), 1);
+    }
+
+    private static void rightByTheirLastCells() {
+        Desk d = new Desk();
+        clueOf(d, 0, "x", "abc", "abd", "cba");
+        clueOf(d, 1, "x", "abc", "abd", "cba");
+        d.room.light(0, 2, 0, false);
+        d.room.light(1, 0, 2, true);
+        d.send("abcabc");
+        d.send("abdabc");
+        d.send("cbaabc");
+        due("alike", d.room.right(0, 0), 1);
+        due("not alike at the last", d.room.right(1, 0), 0);
+        due("alike at the first alone", d.room.right(2, 0), 0);
     }
 
     // ---- Promise 27: winner

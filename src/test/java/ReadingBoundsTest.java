@@ -155,6 +155,7 @@ public final class ReadingBoundsTest {
         meaningOfOneWord();
         meaningIsOneWay();
         meaningOfAMeaning();
+        meaningsOfTenLettersAndOfOne();
     }
 
     private static void lettersOfOneWord() {
@@ -183,6 +184,19 @@ public final class ReadingBoundsTest {
         d.means("u", "v");
         d.means("v", "ab");
         due("over two", d.read(0, "x u", "ab"), "0 0");
+    }
+
+    /** Each word has its own meanings, of whatever length its neighbours' are. */
+    private static void meaningsOfTenLettersAndOfOne() {
+        Desk d = new Desk();
+        d.w("u");
+        d.w("v");
+        d.means("u", "abcdefghij");
+        d.means("v", "a");
+        due("ten letters by u", d.read(0, "u u", "abcdefghij"), "3 2 mA=mB");
+        due("ten letters by v", d.read(0, "v v", "abcdefghij"), "0 0");
+        due("one letter by v", d.read(1, "v v", "a"), "3 2 mA=mB");
+        due("one letter by u", d.read(1, "u u", "a"), "0 0");
     }
 
     // ---- 'By a SIGN that is the first or the last one of its WORDS, of the others (one at least)'
@@ -287,6 +301,8 @@ public final class ReadingBoundsTest {
     private static void shuffleOfManyLikeLetters() {
         due("nine a and a b", read("x s aaaaaaaaab", "baaaaaaaaa", "s:0"), "1 2 mA=sB(C)");
         due("eight a and two b", read("x s aaaaaaaabb", "baaaaaaaaa", "s:0"), "0 0");
+        due("eight a and a c are no nine b", read("x s aaaaaaaac", "bbbbbbbbb", "s:0"), "0 0");
+        due("eight n and a p are no nine o", read("x s nnnnnnnnp", "ooooooooo", "s:0"), "0 0");
         due("nine z and a y", read("x s zzzzzzzzzy", "yzzzzzzzzz", "s:0"), "1 2 mA=sB(C)");
     }
 
@@ -411,6 +427,7 @@ public final class ReadingBoundsTest {
         due("ten letters", read("x t jihgfedcba", "abcdefghij", "t:4"), "1 4 mA=tB(lC)");
         due("not turned", read("x t ab", "ab", "t:4"), "0 0");
         due("a row of six", read("x t f e d c b a", "abcdef", "t:4"), "1 14 mA=tB(lClDlElFlGlH)");
+        due("ten letters in a row of six", read("x t jihgf e d c b a", "abcdefghij", "t:4"), "1 14 mA=tB(lClDlElFlGlH)");
         due("twice", read("x t t ab", "ab", "t:4"), "1 5 mA=tB(tC(lD))");
         due("six times, as it stands", read("x t t t t t t ba", "ba", "t:4"), "1 9 mA=tB(tC(tD(tE(tF(tG(lH))))))");
         due("six times, turned", read("x t t t t t t ba", "ab", "t:4"), "0 0");
@@ -503,6 +520,8 @@ public final class ReadingBoundsTest {
         withinIsARow();
         withinAtSeveralPlaces();
         lettersOrMeaningAround();
+        behindAnotherPiece();
+        withinATurnedRow();
     }
 
     private static void aroundOfOneLetter() {
@@ -594,6 +613,20 @@ public final class ReadingBoundsTest {
         due("letters, or a meaning at two places", d.read(0, "x u i ac", "abbc"), "3 4 mA=iC(mB)1mD");
     }
 
+    /** The digit is of what is around, wherever in the answer that stands. */
+    private static void behindAnotherPiece() {
+        Desk d = room("abcd", "zz:7", "yy:8");
+        d.means("u", "bd");
+        due("in, by a meaning", d.read(0, "x a c zz u", "abcd"), "1 7 mA=lBiD(lC)1mE");
+        due("about, by a meaning", d.read(0, "x a u yy c", "abcd"), "1 7 mA=lBaD(lE)1mC");
+        due("in, by letters", d.read(0, "x a c zz bd", "abcd"), "1 8 mA=lBiD(lC)1lE");
+    }
+
+    private static void withinATurnedRow() {
+        due("in, then a piece", read("x t b i ac d", "dcba", "t:4", "i:7"), "1 9 mA=tB(iD(lC)1lElF)");
+        due("a piece, then about", read("x t a bd i c", "dcba", "t:4", "i:8"), "1 9 mA=tB(lCaE(lF)1lD)");
+    }
+
     // ---- 'two', 'front', 'back'
 
     private static void twoFrontBack() {
@@ -605,6 +638,7 @@ public final class ReadingBoundsTest {
         linkOfTheBack();
         noReadingWithoutAMeaning();
         theWholeClueIsRead();
+        bothEndsOfEightWords();
     }
 
     private static Desk dog() {
@@ -662,6 +696,19 @@ public final class ReadingBoundsTest {
 
     private static void theWholeClueIsRead() {
         due("front and back at once", dog().read(0, "pup dog cur", "dog"), "0 0");
+    }
+
+    /** Both ends mean the answer, and one of them can be a letter of it. */
+    private static void bothEndsOfEightWords() {
+        Desk d = new Desk();
+        d.means("p", "aaaaaa");
+        d.means("q", "aaaaaa");
+        d.means("q", "a");
+        d.sign("t", Desk.TURN);
+        due("the last one", d.read(0, "p t a a a a a q", "aaaaaa"), "6 13 mA=tB(lC)lDlElFlGmH");
+        due("the first one", d.read(0, "q t a a a a a p", "aaaaaa"), "6 13 mAtB(lC)lDlElFlG=mH");
+        due("both", d.read(0, "q t a a a a a q", "aaaaaa"), "12 13 mA=tB(lC)lDlElFlGmH");
+        due("neither", d.read(0, "p t a a a a a p", "aaaaaa"), "0 0");
     }
 
     // ---- 'READINGS are as many as there are ways ... 1000 at most are counted.'
@@ -816,6 +863,7 @@ public final class ReadingBoundsTest {
     private static void lesserPlace() {
         due("the sign that is first", read("x ab ba", "ab", "ab:4", "ba:4"), "1 4 mA=tB(lC)");
         due("the sign that is last", read("x ab ba", "ba", "ab:4", "ba:4"), "1 4 mA=tC(lB)");
+        due("F ahead of G, behind much that is alike", read("x c d e f aa aa", "cdefa", "aa:5"), "2 12 mA=lBlClDlEbF(lG)");
         due("B ahead of C", read("x aa aa", "a", "aa:5"), "2 4 mA=bB(lC)");
     }
 

@@ -156,14 +156,18 @@ final class PlainRoom {
         return found;
     }
 
+    private boolean isKnown(Integer day) {
+        return day != null && day <= asOf;
+    }
+
     private boolean isSign(int place, int play) {
-        return signs.getOrDefault(row[place] + ">" + play, Integer.MAX_VALUE) <= asOf;
+        return isKnown(signs.get(row[place] + ">" + play));
     }
 
     private List<String> meant(int place) {
         List<String> all = new ArrayList<>();
         for (int w = 0; w < words.size(); w++) {
-            if (meanings.getOrDefault(row[place] + ">" + w, Integer.MAX_VALUE) <= asOf) all.add(words.get(w));
+            if (isKnown(meanings.get(row[place] + ">" + w))) all.add(words.get(w));
         }
         return all;
     }
