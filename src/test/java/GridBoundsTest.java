@@ -142,6 +142,8 @@ public final class GridBoundsTest {
         leftInARing();
         leftOfOneLetter();
         leftBySixteenLights();
+        leftByAStairOfSixteenLights();
+        leftByWhatGoesAtBothSides();
     }
 
     private static void leftOfNoLight() {
@@ -240,6 +242,40 @@ public final class GridBoundsTest {
         for (int c = 0; c < 15; c++) d.clue(c, 2, "x x");
         for (int c = 0; c < 16; c++) d.room.light(c, c / 2, c % 2 == 0 ? 0 : 4, false);
         for (int c = 0; c < 16; c++) due("left of " + c, d.room.left(c, 0), 2);
+    }
+
+    /** Each light crosses the next one, so that what is entered at one end is known at the other. */
+    private static Desk stair() {
+        Desk d = new Desk();
+        clueOf(d, 0, "x", "aa", "bb");
+        for (int c = 1; c < 16; c++) d.clue(c, 2, "x x");
+        for (int c = 0; c < 16; c++) d.room.light(c, c / 2, (c + 1) / 2, c % 2 == 1);
+        return d;
+    }
+
+    private static void leftByAStairOfSixteenLights() {
+        Desk d = stair();
+        due("nothing entered", d.room.left(0, 0) + " " + d.room.left(15, 0), "2 2");
+        d.room.enter(8, 8, 2);
+        due("the far end entered", d.room.left(0, 0) + " " + d.room.left(15, 0), "1 1");
+        due("all but the one that is full by then", d.room.solve(0), 15);
+        due("the other end", d.room.cell(0, 0), 2);
+        Desk e = stair();
+        e.room.enter(0, 0, 1);
+        due("the near end entered", e.room.left(0, 0) + " " + e.room.left(15, 0), "1 1");
+        due("two ways to fill it", e.room.fillings(0), 2);
+    }
+
+    /** Something goes from every light at first, and what goes then at one side goes on at the other. */
+    private static void leftByWhatGoesAtBothSides() {
+        Desk d = new Desk();
+        clueOf(d, 0, "x", "a", "b", "z");
+        clueOf(d, 1, "y", "ac", "bd", "yc");
+        clueOf(d, 2, "v", "c", "w");
+        d.room.light(0, 0, 0, true);
+        d.room.light(1, 0, 0, false);
+        d.room.light(2, 0, 1, true);
+        due("one of each", d.room.left(0, 0) + " " + d.room.left(1, 0) + " " + d.room.left(2, 0), "1 1 1");
     }
 
     // ---- Promise 19: nextLight; 'just one LEFT, and CELLS that are not ENTERED'
@@ -897,6 +933,7 @@ public final class GridBoundsTest {
         rightOfAWordThatIsNotTold();
         rightByRisingNumbers();
         rightByTheirLastCells();
+        rightWithAsManyWordsAsThereCanBe();
     }
 
     private static void rightOfNoGrid() {
@@ -983,6 +1020,19 @@ public final class GridBoundsTest {
         due("alike", d.room.right(0, 0), 1);
         due("not alike at the last", d.room.right(1, 0), 0);
         due("alike at the first alone", d.room.right(2, 0), 0);
+    }
+
+    private static void rightWithAsManyWordsAsThereCanBe() {
+        Desk d = oneLight(0, "zz");
+        for (int k = 0; k < 117; k++) d.w(pair(k));
+        due("the 120th word", d.tell("zy"), 119);
+        d.room.solution(0, 119);
+        d.send("zx");
+        d.send("zy");
+        d.send("zz");
+        due("no word", d.room.right(0, 0), 0);
+        due("the last word", d.room.right(1, 0), 1);
+        due("the winner", d.room.winner(0), 1);
     }
 
     // ---- Promise 27: winner

@@ -771,7 +771,7 @@ public final class ReadingBoundsTest {
         int run = d.w(RUN);
         d.clue(0, 10, "u u u u u u u u");
         due("a thousand of very many", d.room.readings(0, run, 0), 1000);
-        due("there is a best one", d.room.best(0, run, 0) > 0, true);
+        due("the best one of all, not of a thousand", d.room.best(0, run, 0) + " " + d.out(), "5 bA(mB)kCmDkEmFkG=mH");
         due("it is possible", d.room.possible(0, 0), 1);
     }
 
