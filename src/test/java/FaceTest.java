@@ -32,6 +32,7 @@ public final class FaceTest {
         exceptions();
         classesInside();
         source();
+        library();
         elements();
         Desk.close();
     }
@@ -120,6 +121,24 @@ public final class FaceTest {
                 opened = -1;
             }
         }
+    }
+
+    /** Of the library only what rule 4 lists, and signs 1 to 127. */
+    private static void library() throws Exception {
+        String text = Files.readString(Path.of("src/main/java/ClueRoom.java"));
+        due("signs 1 to 127", text.chars().allMatch(x -> x >= 1 && x <= 127), true);
+        due("imports", find(text, "(?m)^import [^;]*;"), List.of("import java.util.Arrays;", "import java.util.NoSuchElementException;"));
+        for (String call : find(text, "\\b(Arrays|System|Math|Integer|Long|String|StringBuilder|List|ArrayList)\\.[a-zA-Z]+\\(")) {
+            due("the library has " + call, List.of("Arrays.fill(", "System.arraycopy(", "Math.max(", "Math.min(").contains(call), true);
+        }
+        for (String thrown : find(text, "throw .*")) due(thrown, thrown, "throw new NoSuchElementException();");
+    }
+
+    private static List<String> find(String text, String pattern) {
+        List<String> all = new ArrayList<>();
+        java.util.regex.Matcher m = java.util.regex.Pattern.compile(pattern).matcher(text);
+        while (m.find()) all.add(m.group());
+        return all;
     }
 
     private static boolean has(String text, String word) {

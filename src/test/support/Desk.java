@@ -109,7 +109,7 @@ final class Desk {
 
     String out() {
         StringBuilder s = new StringBuilder();
-        for (int k = 0; k < room.count(8); k++) s.append((char) room.octet(k));
+        for (int k = 0, size = room.count(8); k < size; k++) s.append((char) room.octet(k));
         return s.toString();
     }
 
